@@ -482,7 +482,7 @@ public final class EachOnHisCue {
     /** The least number among the bits, NONE if there is no bit. */
     private static int leastOf(int bits) {
         for (int k = 0; k < MOST_LINES; k++) {
-            if (bitAt(bits, k) == 1) {
+            if ((bits >> k & 1) == 1) {
                 return k;
             }
         }
@@ -492,7 +492,7 @@ public final class EachOnHisCue {
     /** The greatest number among the bits, NONE if there is no bit. */
     private static int greatestOf(int bits) {
         for (int k = MOST_LINES - 1; k >= 0; k--) {
-            if (bitAt(bits, k) == 1) {
+            if ((bits >> k & 1) == 1) {
                 return k;
             }
         }

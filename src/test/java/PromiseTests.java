@@ -397,6 +397,9 @@ public final class PromiseTests {
         due("dead no more", x.player(0, 4), 0);
         due("said no more", x.line(2, 4), 0);
         said(x, 0);
+        EachOnHisCue twice = of("p115;l0a1;l0a1;");
+        said(twice, 0, 1, 1);
+        due("said, though twice", twice.line(1, 4), 1);
         due("again() without lines", new EachOnHisCue().again(), 0);
     }
 
@@ -475,6 +478,10 @@ public final class PromiseTests {
         netOf(of("p015;p415;l0a1;l1b1;l0a1;l1c1;"), 1, -9, 0, 0);
         // 0 -> 1 alone; 2 and 3 follow one another, but nobody comes to them.
         netOf(of("p015;p415;l0a1;l0b1;l1c1;l0d1;l0c1;l0e1;"), 3, -9, 0, 0);
+        // 0 -> 1, 3; 1 -> 2; 2 -> 1, 3; 3 -> 4; 4 -> none.
+        netOf(of("p015;p015;l0a1;l1b1;l0a1;l1c1;l0d1;"), 31, 2, 1, 0);
+        // 0 -> 1, 3; 1, 3 -> 2, 4; 2 -> 1, 3; 4 -> 5.
+        netOf(of("p015;p015;l0a1;l1b1;l0a1;l1b1;l0c1;l1d1;"), 63, 3, 1, 0);
         // The last is followed by itself.
         netOf(of("p015;p015;l0a1;l1a1;"), 3, 1, 1, 0);
         EachOnHisCue x = of(WRITTEN);
@@ -518,6 +525,13 @@ public final class PromiseTests {
         // Player 1 is dead behind line 1, so nobody says line 3; line 2 is said.
         due("a dead one", of("p015;p015;l0a1;l1b1!;l0c1;l1d1;").prompted(), 1);
         due("a sick one", of("p015;p415;l0a1;l1b1;l0c1;l1d1;").prompted(), 2);
+        EachOnHisCue dead = of("p015;p015;l0a1!;l1b1;l0c1!;l1d1;l0e1;");
+        due("one who dies twice", dead.prompted(), 2);
+        dead.goes(0);
+        due("again", dead.prompted(), 2);
+        EachOnHisCue last = of("p015;p015;l0a1;l1b1!;");
+        last.goes(0);
+        due("behind a night in mind", last.prompted(), 0);
         due("a quicker one", of("p015;p015;p019;l0a1;l1b1;l2b1;").prompted(), 0);
         due("a quicker one comes in first", of("p015;p015;p019;l0a1;l1a1;l2b1;").prompted(), 1);
         due("one line", of("p015;l0a1!;").prompted(), 0);
@@ -604,6 +618,9 @@ public final class PromiseTests {
         due("joke(0, 1)", stays.joke(0, 1), 3);
         EachOnHisCue other = of("p015;p015;p015;l0b1;l1a1;l0c1;l2d1;");
         due("a joke that cues another", other.joke(0, 2), 2);
+        EachOnHisCue both = of("p015;p015;p415;l0b1;l2bc1;l1d2;");
+        due("it has two words then", both.joke(0, 2), 2);
+        due("goes without it", both.goes(0), 1);
     }
 
     private static void stretched() {
@@ -631,6 +648,7 @@ public final class PromiseTests {
         due("nobody", new EachOnHisCue().parts(), 0);
         due("players without lines", of("p015;p015;").parts(), 0);
         due("one behind the other", of("p015;p415;p015;l0a1;l0a1;l1a1;l2a1;l2a1;").parts(), 1);
+        due("one line", of("p015;p015;l1a1;").parts(), 1);
         due("two at once", of(WRITTEN).parts(), 2);
         due("0 .. 2, 1 .. 4, 3 .. 5", of("p015;p015;p015;l0a1;l1a1;l0a1;l2a1;l1a1;l2a1;").parts(), 2);
         due("one with all", of("p015;p015;p015;l0a1;l1a1;l2a1;l0a1;").parts(), 2);
@@ -754,6 +772,12 @@ public final class PromiseTests {
         due("lot(1, 1), worked out on paper: 16838 modulo 3", x.lot(1, 1), 4);
         due("lot(1, 1) again", x.lot(1, 1), 4);
         due("what is said now", x.count(2), 0);
+        // Two come in: with the first it has three lines, with the second two. The draws: 16838, 908, 17747, 1817.
+        EachOnHisCue two = of("p015;p011;p019;p419;l0a1;l1b1;l1c1;l3a1;l2d1;");
+        due("lot(1, 1) of two", two.lot(1, 1), 3);
+        due("lot(1, 2) of two", two.lot(1, 2), 3);
+        due("lot(1, 3) of two", two.lot(1, 3), 2);
+        due("lot(1, 4) of two", two.lot(1, 4), 2);
         due("60 at most", of("p115;l0a1;l0a1;").lot(2, 3), 120);
         refused(x, "lot(0, 1)", () -> x.lot(0, 1), -4);
         refused(x, "lot(21, 1)", () -> x.lot(21, 1), -6);
@@ -816,6 +840,14 @@ public final class PromiseTests {
         x.restore();
         due("count(1)", x.count(1), 4);
         due("count(2)", x.count(2), 0);
+        tell(x, "l0r1!;");
+        due("it kills", x.line(4, 3), 1);
+        x.restore();
+        due("lines of player 0", x.player(0, 3), 13);
+        tell(x, "l1s1;");
+        due("another that does not", x.line(4, 3), 0);
+        due("lines of player 0", x.player(0, 3), 13);
+        due("lines of player 1", x.player(1, 3), 18);
     }
 
     private static void count() {
@@ -853,6 +885,40 @@ public final class PromiseTests {
         due("the latest", twice.count(3), 1);
     }
 
+    /** Five players and twelve lines: every call at the greatest size. */
+    private static void full() {
+        promise = "all, with no room left";
+        EachOnHisCue x = of("p015;p015;p015;p015;p015;l0a1;l1b1;l2c1;l3d1;l4e1;l0f1;l1g1;l2h1;l3i1;l4j1;", "l0k1;l1l1;");
+        night(x, 0, 1, 2, 3, 4, 5, 6, 7, 8, 9, 10, 11);
+        due("goes(3)", x.goes(3), 1);
+        netOf(x, 4095, 11, 0, 1);
+        due("follow(11)", x.follow(11), 0);
+        due("follow(10)", x.follow(10), 2048);
+        due("mend()", x.mend(), 0);
+        due("mendOf(11)", x.mendOf(11), 0);
+        due("prompted()", x.prompted(), 0);
+        for (int p = 0; p < 5; p++) {
+            due("without(" + p + ")", x.without(p), p == 0 ? 5 : p);
+        }
+        due("leastHarm()", x.leastHarm(), 0);
+        due("joke(11, 25)", x.joke(11, 25), 12);
+        due("stretched(3)", x.stretched(3), 12);
+        due("parts()", x.parts(), 5);
+        due("lot(20, 9)", x.lot(20, 9), 240);
+        row(x, 0, 1, 2, 3, 4, 5, 6, 7, 8, 9, 10, 11);
+        due("judge()", x.judge(), -9);
+        due("possible()", x.possible(), -9);
+        due("count(4)", x.count(4), 12);
+        said(x, 0, 1, 2, 3, 4, 5, 6, 7, 8, 9, 10, 11, -9);
+        due("comes(4)", x.comes(4), -9);
+        due("image()", x.image(), 12);
+        due("restore()", x.restore(), 12);
+        refused(x, "home(0)", () -> x.home(0), -6);
+        refused(x, "books()", x::books, -6);
+        refused(x, "line(12, 0)", () -> x.line(12, 0), -1);
+        refused(x, "player(5, 0)", () -> x.player(5, 0), -1);
+    }
+
     public static void main(String[] args) {
         newObject();
         feed();
@@ -887,6 +953,7 @@ public final class PromiseTests {
         lot();
         image();
         count();
+        full();
         System.out.println(looked + " answers by hand, " + wrong + " are not as due");
         if (wrong != 0) {
             System.exit(1);
