@@ -364,7 +364,7 @@ public final class EachOnHisCue {
             return refuse(ROOM);
         }
         web.weave(play, 0);
-        return web.orders(0, 1, 1);
+        return web.orders();
     }
 
     public int book(int k, int i) {
@@ -378,7 +378,7 @@ public final class EachOnHisCue {
             return refuse(ROOM);
         }
         web.weave(play, 0);
-        if (i >= play.lines || k >= web.orders(0, 1, 1)) {
+        if (i >= play.lines || k >= web.orders()) {
             return NONE;
         }
         return web.lineOfOrder(k, i);
@@ -912,19 +912,27 @@ public final class EachOnHisCue {
             return true;
         }
 
+        int orders() {
+            return ordersBehind(this, 0, 1, 1);
+        }
+
         /** In how many orders the lines not used yet can come behind this one; depth lines are used. */
-        int orders(int latest, int used, int depth) {
-            if (depth >= lines || depth >= MOST_LINES_BOOKS) {
+        private static int ordersBehind(Net net, int latest, int used, int depth) {
+            if (depth >= net.lines || depth >= MOST_LINES_BOOKS) {
                 return 1;
             }
             int all = 0;
-            int free = latest >= 0 && latest < lines ? after[latest] & ~used : 0;
-            for (int j = 1; j < lines; j++) {
+            int free = net.freeBehind(latest, used);
+            for (int j = 1; j < net.lines; j++) {
                 if (bitAt(free, j) == 1) {
-                    all += orders(j, used | 1 << j, depth + 1);
+                    all += ordersBehind(net, j, used | 1 << j, depth + 1);
                 }
             }
             return all;
+        }
+
+        int freeBehind(int latest, int used) {
+            return latest >= 0 && latest < lines ? after[latest] & ~used : 0;
         }
 
         int lineOfOrder(int k, int i) {
@@ -932,10 +940,10 @@ public final class EachOnHisCue {
             int used = 1;
             int left = k;
             for (int depth = 1; depth <= i; depth++) {
-                int free = latest >= 0 && latest < lines ? after[latest] & ~used : 0;
+                int free = freeBehind(latest, used);
                 int chosen = NONE;
                 for (int j = 1; j < lines && chosen == NONE; j++) {
-                    int behind = bitAt(free, j) == 1 ? orders(j, used | 1 << j, depth + 1) : 0;
+                    int behind = bitAt(free, j) == 1 ? ordersBehind(this, j, used | 1 << j, depth + 1) : 0;
                     if (left < behind) {
                         chosen = j;
                     } else {
@@ -1161,13 +1169,9 @@ public final class EachOnHisCue {
             }
         }
 
-        /** The place behind the statement that begins here. */
-        int behind(int place) {
-            int k = place;
-            while (k < size && at(k) != ';') {
-                k++;
-            }
-            return k + 1;
+        /** Only where no letter is wrong. */
+        boolean begins(int place) {
+            return place == 0 || at(place - 1) == ';';
         }
 
         int wordsBehind(int place) {
@@ -1182,7 +1186,10 @@ public final class EachOnHisCue {
         int firstWrongStatement(Play play) {
             int players = play.players;
             int lines = play.lines;
-            for (int k = 0; k < size; k = behind(k)) {
+            for (int k = 0; k < size; k++) {
+                if (!begins(k)) {
+                    continue;
+                }
                 boolean fits = at(k) == 'p' ? isPlayer(k, players) : isLine(k, players, lines);
                 if (!fits) {
                     return k;
@@ -1205,7 +1212,10 @@ public final class EachOnHisCue {
         /** Only where there is no fault: how many statements there are. */
         int bringAll(Play play) {
             int statements = 0;
-            for (int k = 0; k < size; k = behind(k)) {
+            for (int k = 0; k < size; k++) {
+                if (!begins(k)) {
+                    continue;
+                }
                 if (at(k) == 'p') {
                     play.addPlayer(playerOf(digit(k + 1), digit(k + 2)), digit(k + 3));
                 } else {

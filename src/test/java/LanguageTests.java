@@ -6,7 +6,9 @@ import java.nio.file.Files;
 import java.nio.file.Path;
 import java.util.ArrayList;
 import java.util.List;
+import java.util.Map;
 import java.util.Set;
+import java.util.TreeMap;
 import java.util.TreeSet;
 import java.util.regex.Matcher;
 import java.util.regex.Pattern;
@@ -73,12 +75,15 @@ public final class LanguageTests {
     private static void shape(Class<?> one, Set<String> names) {
         int fields = 0;
         for (Field f : one.getDeclaredFields()) {
+            Class<?> type = f.getType().isArray() ? f.getType().getComponentType() : f.getType();
             if (Modifier.isStatic(f.getModifiers())) {
-                holds(Modifier.isFinal(f.getModifiers()), f + " final");
+                holds(Modifier.isFinal(f.getModifiers()) && f.getType().isPrimitive(), f + " a constant");
             } else {
+                holds(type.isPrimitive() || type.getName().startsWith("EachOnHisCue$"), f + " of a plain type");
                 fields++;
             }
         }
+        holds(!one.isAnonymousClass() && !one.isLocalClass(), one + " has a name and a place of its own");
         holds(fields <= 20, "twenty fields at most in " + one);
         for (Method m : one.getDeclaredMethods()) {
             holds(m.getParameterCount() <= 7, m + " takes seven at most");
@@ -107,6 +112,79 @@ public final class LanguageTests {
             holds(!m.find(), "nothing like " + one);
         }
         lengths(text);
+        names(code);
+        loops(code);
+        depth(code);
+    }
+
+    /** Rules 2 to 4: the library's only name is Math, all others are the file's own classes and constants. */
+    private static void names(String code) {
+        Set<String> own = new TreeSet<>(Set.of("EachOnHisCue", "Math"));
+        for (Class<?> inside : EachOnHisCue.class.getDeclaredClasses()) {
+            own.add(inside.getSimpleName());
+        }
+        Matcher m = Pattern.compile("\\b[A-Z]\\w*[a-z]\\w*").matcher(code);
+        while (m.find()) {
+            holds(own.contains(m.group()), "no such name: " + m.group());
+        }
+        m = Pattern.compile("\\bMath\\.(\\w+)").matcher(code);
+        while (m.find()) {
+            holds(Set.of("min", "max").contains(m.group(1)), "no Math." + m.group(1));
+        }
+        holds(!code.contains("var ") && !code.contains("[][]") && !code.contains("..."), "plain types");
+    }
+
+    /** Rule 9: a for counts by one against a bound, a while compares its counter with one. */
+    private static void loops(String code) {
+        Matcher m = Pattern.compile("\\bfor \\((.*)\\) \\{").matcher(code);
+        int seen = 0;
+        while (m.find()) {
+            seen++;
+            holds(m.group(1).matches("int (\\w+) = [^;]+; \\1 (<|<=|>|>=) [^;]+; \\1(\\+\\+|--)"), "counts: " + m.group());
+        }
+        m = Pattern.compile("\\bwhile \\((.*)\\) \\{").matcher(code);
+        while (m.find()) {
+            seen++;
+            holds(m.group(1).matches("\\w+ (<|<=|>|>=) .*"), "counts: " + m.group());
+        }
+        holds(seen > 10 && seen == code.split("\\b(for|while|do)\\b", -1).length - 1, "all loops are seen");
+    }
+
+    /** Rule 11: calls, found by their names, go at most eight deep; rule 8: what calls itself is private and static. */
+    private static void depth(String code) {
+        Matcher m = Pattern.compile("\n( {4}| {8})((?:\\w+ )*)(\\w+)\\([^\n]*\\) \\{(.*?)\n\\1\\}", Pattern.DOTALL).matcher(code);
+        Map<String, String> bodies = new TreeMap<>();
+        int at = 0;
+        while (m.find(at)) {
+            at = m.end() - m.group(1).length() - 2;
+            String name = m.group(3);
+            boolean calls = Pattern.compile("(?<![\\w.])" + name + "\\(").matcher(m.group(4)).find();
+            holds(!calls || m.group(2).startsWith("private static"), "calls itself: " + name);
+            bodies.merge(name, m.group(4), (a, b) -> a + b);
+        }
+        holds(bodies.keySet().containsAll(List.of("feed", "leastHarm", "nextLine", "choose", "leastOf")), "methods are seen: " + bodies.keySet());
+        for (String name : bodies.keySet()) {
+            holds(deep(name, bodies, new TreeSet<>()) <= 8, "eight deep at most: " + name);
+        }
+    }
+
+    private static int deep(String name, Map<String, String> bodies, Set<String> open) {
+        if (!open.add(name)) {
+            return 0;
+        }
+        int most = 0;
+        Matcher m = Pattern.compile("\\b(\\w+)\\(").matcher(bodies.get(name));
+        Set<String> called = new TreeSet<>();
+        while (m.find()) {
+            if (bodies.containsKey(m.group(1))) {
+                called.add(m.group(1));
+            }
+        }
+        for (String other : called) {
+            most = Math.max(most, deep(other, bodies, open));
+        }
+        open.remove(name);
+        return most + 1;
     }
 
     /** A method begins at a line that ends in ") {" one level below its class and ends at the brace of the same indent. */
