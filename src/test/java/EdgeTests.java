@@ -11,7 +11,7 @@ public final class EdgeTests {
     private static int looked = 0;
     private static String sentence = "";
 
-    /** The words of the document that the looks below are about. */
+    /** The words of the document, some of them shortened, that the looks below are about. */
     private static void says(String words) {
         sentence = words;
     }
@@ -819,6 +819,16 @@ public final class EdgeTests {
         due("one line, book(0, 0)", written(1).book(0, 0), 0);
         due("one line, book(0, 1)", written(1).book(0, 1), -9);
         due("one line, book(1, 0)", written(1).book(1, 0), -9);
+        // 1 listens for a, 2 for b, 3 and 4 for a, 5 for c, which only 4 says: d can't be followed.
+        EachOnHisCue some = of("p015;l0a1;l0b1;l0a1;l0a1;l0c1;l0d1;");
+        int[][] two = {{0, 1, 2, 3, 4, 5}, {0, 3, 1, 2, 4, 5}};
+        due("books()", some.books(), 2);
+        for (int k = 0; k < 2; k++) {
+            for (int i = 0; i < 6; i++) {
+                due("book(" + k + ", " + i + ") of some", some.book(k, i), two[k][i]);
+            }
+        }
+        due("book(2, 0) of some", some.book(2, 0), -9);
         EachOnHisCue seven = alike(7);
         for (int i = 0; i < 7; i++) {
             due("book(719, " + i + ")", seven.book(719, i), i == 0 ? 0 : 7 - i);
@@ -956,7 +966,9 @@ public final class EdgeTests {
         due("image()", y.image(), 2);
         y.lose(2);
         y.again();
+        y.cue(0, 4);
         y.cue(1, 4);
+        y.speed(0, 9);
         y.speed(1, 0);
         tell(y, "p415;l2c1!;l1d1;l0e1;");
         y.feed('p');
@@ -967,7 +979,9 @@ public final class EdgeTests {
         for (int what = 0; what < due.length; what++) {
             due("count(" + what + ")", y.count(what), due[what]);
         }
+        due("cue of LINE 0", y.line(0, 2), 1);
         due("cue", y.line(1, 2), 1);
+        due("haste of PLAYER 0", y.player(0, 2), 5);
         due("haste", y.player(1, 2), 13);
         due("dead", y.player(1, 4), 1);
         due("said", y.line(1, 4), 1);
