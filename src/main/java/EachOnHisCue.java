@@ -960,7 +960,7 @@ public final class EachOnHisCue {
         }
 
         int firstThatCannotFollow(int[] row, int size) {
-            for (int k = 0; k < size; k++) {
+            for (int k = 0; k < size && k < row.length; k++) {
                 boolean can = k == 0 ? row[k] == 0 : canFollow(row[k - 1], row[k]);
                 if (!can) {
                     return k;
@@ -1035,7 +1035,7 @@ public final class EachOnHisCue {
 
         int firstOtherThanSaid(Play play, int[] row, int size) {
             saying.forget();
-            for (int k = 0; k < size; k++) {
+            for (int k = 0; k < size && k < row.length; k++) {
                 int next = nextLine(play, saying, NONE);
                 if (row[k] != next) {
                     return k;
